@@ -53,6 +53,10 @@ public final class MendsTest {
         CHECK.due("two words, the first one great", mended(told, "Tom Cat", 0), "true House cat");
         CHECK.due("two words, one all great", mended(told, "TOM cat", 0), "true House cat");
         CHECK.due("two words, the second great", mended(told, "tom CAT", 0), "true house cat");
+        told.term("azy", 3, GOOD, 1);
+        told.term("zazz", 3, BANNED, 1);
+        CHECK.due("the last letter of all", mended(told, "ZAZZ", 0), "true AZY");
+        CHECK.due("the last letter at the begin", mended(told, "Zazz", 0), "true Azy");
     }
 
     private static void endingsStay() {
@@ -128,6 +132,9 @@ public final class MendsTest {
             CHECK.due("use " + use, mended(told, "puss", use), "false puss");
         }
         CHECK.due("of an empty text", told.keeper.mend(3, 0), false);
+        told.text(1, "puss puss");
+        CHECK.due("two uses in another text", told.keeper.uses(1), 2);
+        CHECK.due("one in this", mended(told, "puss", 1), "false puss");
         CHECK.due("no mends ever", told.keeper.total(4), 0);
     }
 

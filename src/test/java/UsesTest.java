@@ -19,6 +19,7 @@ public final class UsesTest {
         leastTerm();
         neighboursTellApart();
         neighboursOfTheSentence();
+        neighboursOfTheFirstAndLastThing();
         neighboursOutside();
         doubtful();
         findingsInOrder();
@@ -40,6 +41,9 @@ public final class UsesTest {
         CHECK.due("signs beside the letters", told.keeper.uses(0), 2);
         told.text(0, "dog");
         CHECK.due("none", told.keeper.uses(0), 0);
+        told.term("az", 0, GOOD, 0);
+        told.text(0, "AZ Zaz aZ");
+        CHECK.due("the first and the last letter", told.uses(0), "0-2:1/-1!0 7-9:1/-1!0");
     }
 
     private static void together() {
@@ -157,6 +161,17 @@ public final class UsesTest {
         }
         told.text(0, "money bank. bank river? a bank a; water banks");
         CHECK.due("each its own", told.uses(0), "6-10:1/-1!0 12-16:2/-1!0 26-30:-1/-1!1 40-45:2/0!0");
+    }
+
+    private static void neighboursOfTheFirstAndLastThing() {
+        Told told = new Told();
+        told.term("key", 0, GOOD, 0);
+        told.term("key", 39, GOOD, 0);
+        told.neighbour("door", 0);
+        told.neighbour("piano", 39);
+        told.text(0, "door key. door door key; piano key? piano piano key! key");
+        CHECK.due("sentence by sentence", told.uses(0),
+                "5-8:0/-1!0 20-23:0/-1!0 31-34:1/-1!0 48-51:1/-1!0 53-56:-1/-1!1");
     }
 
     private static void neighboursOutside() {
