@@ -5,6 +5,7 @@ final class Check {
     }
 
     private final String name;
+    private String sentence = "";
     private int wrong;
     private int looked;
 
@@ -12,11 +13,16 @@ final class Check {
         this.name = name;
     }
 
+    /** The words of the document that the answers from here on are held against: promise, colon, words. */
+    void sentence(String words) {
+        sentence = " [" + words + "]";
+    }
+
     void due(String what, Object got, Object want) {
         looked++;
         if (!String.valueOf(got).equals(String.valueOf(want))) {
             wrong++;
-            System.out.println(name + ": " + what + " answered " + got + ", due is " + want);
+            System.out.println(name + sentence + ": " + what + " answered " + got + ", due is " + want);
         }
     }
 

@@ -1,81 +1,202 @@
 import java.util.NoSuchElementException;
 
-/** Promises 13, 14, 17 and 20: uses, their terms, endings and findings. */
+/** Promises 13 and 14, but for findings: words, forms, uses from the left, and which term a use is of. */
 public final class UsesTest {
     private static final Check CHECK = new Check("UsesTest");
     private static final Class<NoSuchElementException> MISSING = NoSuchElementException.class;
     private static final int GOOD = 0;
     private static final int BANNED = 1;
-    private static final int SHORT = 2;
     private static final int LOOSE = 3;
+    private static final int MIN = Integer.MIN_VALUE;
+    private static final int MAX = Integer.MAX_VALUE;
 
     public static void main(String[] args) {
-        wholeWords();
-        together();
-        longestFirst();
-        formsByEndings();
-        longForms();
-        laterEndings();
-        leastTerm();
-        neighboursTellApart();
-        neighboursOfTheSentence();
-        neighboursOfTheFirstAndLastThing();
-        neighboursOutside();
-        doubtful();
-        findingsInOrder();
-        shortsSpelledOut();
-        defined();
-        missing();
-        counted();
-        crossings();
-        fullText();
+        greatCountAsSmall();
+        longestRowsOfLetters();
+        bytesThatAreNoLetters();
+        oneBlankOrLineEnd();
+        nothingElseBetween();
+        wordsMissing();
+        mostWords();
+        mostWordsByAnEnding();
+        nextBeginsBehind();
+        lessWordsWhereMoreDoNotStand();
+        doubtfulOfMostWords();
+        rowAlone();
+        endingsItTakes();
+        firstAndLastEnding();
+        sixteenLetters();
+        endingsToldLater();
+        leastNumber();
+        leastNumberOfTheThing();
+        noSuchUse();
+        anotherWhat();
         CHECK.end();
     }
 
-    private static void wholeWords() {
+    private static void greatCountAsSmall() {
+        CHECK.sentence("==== 2: A .. Z count as a .. z");
+        Told told = new Told();
+        told.term("azby", 0, GOOD, 0);
+        CHECK.due("in any mix", told.uses(0, "azby AZBY Azby aZbY"), "0-4:0/-1!0 5-9:0/-1!0 10-14:0/-1!0 15-19:0/-1!0");
+        told.term("az", 1, GOOD, 0);
+        told.term("az", 2, GOOD, 0);
+        told.neighbour("za", 2);
+        CHECK.due("of neighbours, too", told.uses(0, "ZA Az"), "3-5:2/-1!0");
+        told.ending("zs");
+        told.term("cat", 3, GOOD, 1);
+        CHECK.due("of endings, too", told.uses(0, "CATZS catZs"), "0-5:3/0!0 6-11:3/0!0");
+    }
+
+    private static void longestRowsOfLetters() {
+        CHECK.sentence("==== 2: WORDS of a TEXT: each longest row of letters");
+        Told told = new Told();
+        told.term("a", 0, GOOD, 0);
+        told.term("cat", 1, GOOD, 0);
+        CHECK.due("not a part of one", told.uses(0, "cats scat catcat ca at"), "");
+        CHECK.due("at both ends of the text", told.uses(0, "cat,cat"), "0-3:1/-1!0 4-7:1/-1!0");
+        CHECK.due("the whole text", told.uses(0, "cat"), "0-3:1/-1!0");
+        CHECK.due("an empty text", told.uses(0, ""), "");
+        told.text(0, "a".repeat(600));
+        CHECK.due("six hundred letters", told.uses(0), 0);
+        told.text(0, "a ".repeat(300));
+        CHECK.due("three hundred words", told.uses(0), 300);
+        CHECK.due("the last of them", told.useAt(0, 299), "598-599:0/-1!0");
+        CHECK.refused("none behind it", MISSING, () -> told.use(0, 300, 0));
+        CHECK.due("the last byte", told.uses(0, " ".repeat(599) + "A"), "599-600:0/-1!0");
+    }
+
+    private static void bytesThatAreNoLetters() {
+        CHECK.sentence("==== 2: LETTERS a to z (A .. Z count as a .. z)");
         Told told = new Told();
         told.term("cat", 0, GOOD, 0);
-        told.text(0, "cat Cat,cAT cats scat cat1cat\0" + (char) 200 + "cat");
-        CHECK.due("whole words alone", told.uses(0), "0-3:0/-1!0 4-7:0/-1!0 8-11:0/-1!0 22-25:0/-1!0 26-29:0/-1!0 31-34:0/-1!0");
-        told.text(0, "@cat[`cat{");
-        CHECK.due("signs beside the letters", told.keeper.uses(0), 2);
-        told.text(0, "dog");
-        CHECK.due("none", told.keeper.uses(0), 0);
-        told.term("az", 0, GOOD, 0);
-        told.text(0, "AZ Zaz aZ");
-        CHECK.due("the first and the last letter", told.uses(0), "0-2:1/-1!0 7-9:1/-1!0");
+        int[] others = {'@', '[', '`', '{', 0, 31, '0', '9', '_', '-', '\'', 127, 128, 'a' + 128, 'z' + 128, 'A' + 128, 255};
+        for (int other : others) {
+            told.text(0, (char) other + "cat" + (char) other);
+            CHECK.due("byte " + other, told.ofAll(0, 0), 1);
+        }
+        for (int letter : new int[] {'a', 'z', 'A', 'Z'}) {
+            told.text(0, (char) letter + "cat");
+            CHECK.due("ahead of it " + (char) letter, told.uses(0), 0);
+            told.text(0, "cat" + (char) letter);
+            CHECK.due("behind it " + (char) letter, told.uses(0), 0);
+        }
     }
 
-    private static void together() {
+    private static void oneBlankOrLineEnd() {
+        CHECK.sentence("==== 2: WORDS with nothing but one blank (32) or line end (10) between stand TOGETHER");
         Told told = new Told();
         told.term("red house", 0, GOOD, 0);
-        String[] apart = {"red  house", "red\n\nhouse", "red \nhouse", "red, house", "red-house", "red\thouse", "redhouse", "red. house", "red", "house"};
-        for (String signs : apart) {
-            told.text(0, signs);
-            CHECK.due("apart: " + signs, told.keeper.uses(0), 0);
-        }
-        told.text(0, "red house RED\nHouse red red house");
-        CHECK.due("together", told.uses(0), "0-9:0/-1!0 10-19:0/-1!0 24-33:0/-1!0");
+        told.term("one two three", 1, GOOD, 0);
+        CHECK.due("a blank, a line end", told.uses(0, "red house RED\nHouse"), "0-9:0/-1!0 10-19:0/-1!0");
+        CHECK.due("of three", told.uses(0, "one two three one\ntwo three one two\nthree one\ntwo\nthree"),
+                "0-13:1/-1!0 14-27:1/-1!0 28-41:1/-1!0 42-55:1/-1!0");
     }
 
-    private static void longestFirst() {
+    private static void nothingElseBetween() {
+        CHECK.sentence("==== 2: nothing but one blank (32) or line end (10)");
+        Told told = new Told();
+        told.term("red house", 0, GOOD, 0);
+        String[] between = {"", "  ", "\n\n", " \n", "\n ", ",", ", ", " ,", "-", "\t", "\r", "\u000b", "\f", "\u001f", "!", ".",
+            ". ", " .", "\0", "\u00a0", "\u008a", "*", "_", " \0"};
+        for (String signs : between) {
+            told.text(0, "red" + signs + "house");
+            CHECK.due("'" + signs + "' (" + signs.length() + ")", told.uses(0), 0);
+        }
+        told.term("one two three", 1, GOOD, 0);
+        for (String signs : new String[] {"one two  three", "one  two three", "one two, three", "one. two three"}) {
+            told.text(0, signs);
+            CHECK.due(signs, told.uses(0), 0);
+        }
+    }
+
+    private static void wordsMissing() {
+        CHECK.sentence("==== 2: FORMS whose WORDS are those that stand there");
+        Told told = new Told();
+        told.term("red house", 0, GOOD, 0);
+        for (String signs : new String[] {"red", "house", "red ", "red\n", "house red", "red houses", "reds house", "red hous", "redhouse"}) {
+            told.text(0, signs);
+            CHECK.due(signs, told.uses(0), 0);
+        }
+        told.text(0, " ".repeat(591) + "red house");
+        CHECK.due("at the end of a full text", told.allUses(0), "591-600:0/-1!0");
+        told.cut(0, 599);
+        CHECK.due("one byte less", told.allUses(0), "");
+    }
+
+    private static void mostWords() {
+        CHECK.sentence("==== 2: of all FORMS .. that of most WORDS");
+        Told told = lengths();
+        CHECK.due("three words", told.uses(0, "a b c"), "0-5:1/-1!0");
+        CHECK.due("two", told.uses(0, "a b"), "0-3:2/-1!0");
+        CHECK.due("one", told.uses(0, "a"), "0-1:0/-1!0");
+        Told other = new Told();
+        other.term("a b c", 0, GOOD, 0);
+        other.term("a b", 1, GOOD, 0);
+        other.term("a", 2, GOOD, 0);
+        CHECK.due("told the other way round", other.uses(0, "a b c a b a"), "0-5:0/-1!0 6-9:1/-1!0 10-11:2/-1!0");
+    }
+
+    private static Told lengths() {
+        Told told = new Told();
+        told.term("a", 0, GOOD, 0);
+        told.term("a b c", 2, GOOD, 0);
+        told.term("a b", 1, GOOD, 0);
+        told.term("c", 3, GOOD, 0);
+        told.term("b c", 4, GOOD, 0);
+        return told;
+    }
+
+    private static void mostWordsByAnEnding() {
+        CHECK.sentence("==== 2: of all FORMS (with an ENDING, too) that of most WORDS");
+        Told told = new Told();
+        told.ending("s");
+        told.term("a", 0, GOOD, 0);
+        told.term("a b", 1, GOOD, 1);
+        CHECK.due("two words by an ending", told.uses(0, "a bs"), "0-4:1/0!0");
+        CHECK.due("the first word's ending is no form of two", told.uses(0, "as b"), "");
+    }
+
+    private static void nextBeginsBehind() {
+        CHECK.sentence("==== 2: from the left: at each WORD that no USE ahead has; the next one begins behind it");
+        Told told = lengths();
+        CHECK.due("a, then a b, then b c", told.uses(0, "a a b b c"), "0-1:0/-1!0 2-5:2/-1!0 6-9:4/-1!0");
+        CHECK.due("a b, then a b c", told.uses(0, "a b a b c"), "0-3:2/-1!0 4-9:1/-1!0");
+        CHECK.due("a b has b, so b c isn't", told.uses(0, "a b\n\nc"), "0-3:2/-1!0 5-6:3/-1!0");
+        CHECK.due("words of none between", told.uses(0, "x b c x"), "2-5:4/-1!0");
+        CHECK.due("one behind the other", told.uses(0, "a b c a b c"), "0-5:1/-1!0 6-11:1/-1!0");
+    }
+
+    private static void lessWordsWhereMoreDoNotStand() {
+        CHECK.sentence("==== 2: those that stand there, TOGETHER, that of most WORDS");
+        Told told = lengths();
+        CHECK.due("two, then one", told.uses(0, "a b  c"), "0-3:2/-1!0 5-6:3/-1!0");
+        CHECK.due("one, then two", told.uses(0, "a, b c"), "0-1:0/-1!0 3-6:4/-1!0");
+        CHECK.due("three but for the last", told.uses(0, "a b d"), "0-3:2/-1!0");
+        CHECK.due("three but for the last letter", told.uses(0, "a b cc"), "0-3:2/-1!0");
+    }
+
+    private static void doubtfulOfMostWords() {
+        CHECK.sentence("==== 2: that of most WORDS; if there is one, it is a USE (DOUBTFUL or not)");
         Told told = new Told();
         told.term("a", 0, GOOD, 0);
         told.term("a b", 1, GOOD, 0);
-        told.term("a b c", 2, GOOD, 0);
-        told.term("c", 3, GOOD, 0);
-        told.term("b c", 4, GOOD, 0);
-        told.text(0, "a b c");
-        CHECK.due("three words", told.uses(0), "0-5:2/-1!0");
-        told.text(0, "a b  c");
-        CHECK.due("two, then one", told.uses(0), "0-3:1/-1!0 5-6:3/-1!0");
-        told.text(0, "a a b b c");
-        CHECK.due("from the left", told.uses(0), "0-1:0/-1!0 2-5:1/-1!0 6-9:4/-1!0");
-        told.text(0, "a b a b c");
-        CHECK.due("the next begins behind it", told.uses(0), "0-3:1/-1!0 4-9:2/-1!0");
+        told.term("a b", 2, GOOD, 0);
+        CHECK.due("no shorter one instead", told.uses(0, "a b"), "0-3:-1/-1!1");
     }
 
-    private static void formsByEndings() {
+    private static void rowAlone() {
+        CHECK.sentence("FORMS of a TERM: its row");
+        Told told = new Told();
+        told.ending("s");
+        told.term("cat", 0, GOOD, 0);
+        CHECK.due("without classes its row alone", told.uses(0, "cat cats"), "0-3:0/-1!0");
+        told.term("cats", 0, GOOD, 0);
+        CHECK.due("its row is no ending", told.uses(0, "cats"), "0-4:1/-1!0");
+    }
+
+    private static void endingsItTakes() {
+        CHECK.sentence("FORMS of a TERM: that with an ENDING (one that it takes) behind its last WORD");
         Told told = new Told();
         told.ending("s");
         told.ending("es");
@@ -83,230 +204,111 @@ public final class UsesTest {
         told.term("box", 0, GOOD, 2);
         told.term("hen house", 1, GOOD, 5);
         told.term("ox", 2, GOOD, 4);
-        told.term("boxe", 3, GOOD, 0);
-        told.text(0, "box boxs BOXES boxeses");
-        CHECK.due("by its classes alone", told.uses(0), "0-3:0/-1!0 9-14:0/1!0");
-        told.text(0, "hen houses. hens house. hens houses");
-        CHECK.due("behind the last word alone", told.uses(0), "0-10:1/0!0");
-        told.text(0, "oxs");
-        CHECK.due("by the third", told.uses(0), "0-3:2/2!0");
-        told.text(0, "boxe");
-        CHECK.due("row alone", told.uses(0), "0-4:3/-1!0");
+        CHECK.due("one that it takes", told.uses(0, "box boxs BOXES boxeses boxe boxess"), "0-3:0/-1!0 9-14:0/1!0");
+        CHECK.due("behind the last word alone", told.uses(0, "hen houses. hens house. hens houses"), "0-10:1/0!0");
+        CHECK.due("by the third", told.uses(0, "oxs"), "0-3:2/2!0");
+        CHECK.due("an ending is no form", told.uses(0, "s es"), "");
+        CHECK.due("nor is it behind a blank", told.uses(0, "box es"), "0-3:0/-1!0");
     }
 
-    private static void longForms() {
+    private static void firstAndLastEnding() {
+        CHECK.sentence("CLASSES (bits: which ENDINGS it takes)");
+        Told told = new Told();
+        for (int i = 0; i < 6; i++) {
+            told.ending("" + (char) ('u' + i));
+            told.term("" + (char) ('a' + i), i, GOOD, 1 << i);
+        }
+        told.term("all", 6, GOOD, 63);
+        told.term("none", 7, GOOD, 0);
+        for (int i = 0; i < 6; i++) {
+            String signs = "" + (char) ('a' + i);
+            told.text(0, signs + "u " + signs + "v " + signs + "w " + signs + "x " + signs + "y " + signs + "z");
+            CHECK.due("bit " + i + ", where", told.ofAll(0, 0), 3 * i);
+            CHECK.due("bit " + i + ", which", told.ofAll(0, 3), i);
+        }
+        told.text(0, "allu allv allw allx ally allz nonez noneu none");
+        CHECK.due("all bits, and none", told.ofAll(0, 3), "0 1 2 3 4 5 -1");
+    }
+
+    private static void sixteenLetters() {
+        CHECK.sentence("FORMS: if that has 16 LETTERS at most");
         Told told = new Told();
         told.ending("ness");
         told.term("abcdefghijkl", 0, GOOD, 1);
-        told.text(0, "abcdefghijklness abcdefghijklnesss");
-        CHECK.due("sixteen letters", told.uses(0), "0-16:0/0!0");
+        told.term("abcdefghijkl mnopqrstuvwx abcdefghijkl", 1, GOOD, 1);
+        CHECK.due("sixteen", told.uses(0, "abcdefghijklness abcdefghijklnesss"), "0-16:0/0!0");
+        CHECK.due("sixteen behind two words", told.uses(0, "abcdefghijkl mnopqrstuvwx abcdefghijklness"), "0-42:1/0!0");
     }
 
-    private static void laterEndings() {
+    private static void endingsToldLater() {
+        CHECK.sentence("FORMS: with an ENDING (one that it takes), whenever that was told");
         Told told = new Told();
         told.term("cat", 0, GOOD, 2);
         told.text(0, "cats");
         told.ending("x");
-        CHECK.due("not taken yet", told.keeper.uses(0), 0);
+        CHECK.due("not one yet", told.uses(0), 0);
         told.ending("s");
-        CHECK.due("told behind the term", told.uses(0), "0-4:0/1!0");
+        CHECK.due("told behind the term", told.allUses(0), "0-4:0/1!0");
     }
 
-    private static void leastTerm() {
+    private static void leastNumber() {
+        CHECK.sentence("==== 2: (or if all are of one) the TERM of the least number");
         Told told = new Told();
         told.ending("s");
         told.term("cats", 0, BANNED, 0);
         told.term("cat", 0, GOOD, 1);
         told.term("cats", 0, LOOSE, 0);
-        told.text(0, "cats cat");
-        CHECK.due("of one thing the least number", told.uses(0), "0-4:0/-1!2 5-8:1/-1!0");
+        CHECK.due("the least", told.uses(0, "cats cat"), "0-4:0/-1!2 5-8:1/-1!0");
+        Told other = new Told();
+        other.ending("s");
+        other.term("cat", 0, GOOD, 1);
+        other.term("cats", 0, BANNED, 0);
+        CHECK.due("the least by an ending", other.uses(0, "cats"), "0-4:0/0!0");
+        CHECK.due("no neighbours are asked for", other.neighbour("x", 5), 1);
+        CHECK.due("of one thing", other.uses(0, "x cats"), "2-6:0/0!0");
     }
 
-    private static void neighboursTellApart() {
-        Told told = bank();
-        told.text(0, "bank by the river. MONEY in a bank. Bank.");
-        CHECK.due("told apart", told.uses(0), "0-4:2/-1!0 30-34:1/-1!0 36-40:-1/-1!1");
-        told.text(0, "bank river water water money money");
-        CHECK.due("each word counts", told.uses(0), "0-4:2/-1!0");
-        told.text(0, "bank river rivers riverx money");
-        CHECK.due("whole neighbours alone, as many of each", told.uses(0), "0-4:-1/-1!1");
-    }
-
-    /** Term 0 is of no meaning here; bank is 1 of thing 1 (money), 2 of thing 2 (river, water), 3 of thing 2. */
-    private static Told bank() {
+    private static void leastNumberOfTheThing() {
+        CHECK.sentence("==== 2: Of those of that THING the TERM of the least number");
         Told told = new Told();
         told.ending("s");
-        told.term("other", 0, GOOD, 0);
-        told.term("bank", 1, GOOD, 1);
-        told.term("bank", 2, GOOD, 1);
-        told.term("bank", 2, BANNED, 1);
-        told.neighbour("money", 1);
-        told.neighbour("river", 2);
-        told.neighbour("water", 2);
-        told.neighbour("river", 3);
-        return told;
+        told.term("keys", 1, GOOD, 0);
+        told.term("key", 2, GOOD, 1);
+        told.term("keys", 2, BANNED, 0);
+        told.term("keys", 1, LOOSE, 0);
+        told.neighbour("piano", 2);
+        told.neighbour("door", 1);
+        CHECK.due("the second thing's", told.uses(0, "piano keys"), "6-10:1/0!0");
+        CHECK.due("the first thing's", told.uses(0, "door keys"), "5-9:0/-1!0");
     }
 
-    private static void neighboursOfTheSentence() {
-        Told told = bank();
-        String stops = ".!?;";
-        for (int i = 0; i < 4; i++) {
-            told.text(0, "river" + stops.charAt(i) + "bank" + stops.charAt(i) + "money");
-            CHECK.due("a stop " + stops.charAt(i), told.uses(0), "6-10:-1/-1!1");
-        }
-        String others = ",:\n-\0";
-        for (int i = 0; i < others.length(); i++) {
-            told.text(0, "money." + "river" + others.charAt(i) + "bank");
-            CHECK.due("no stop " + (int) others.charAt(i), told.uses(0), "12-16:2/-1!0");
-        }
-        told.text(0, "money bank. bank river? a bank a; water banks");
-        CHECK.due("each its own", told.uses(0), "6-10:1/-1!0 12-16:2/-1!0 26-30:-1/-1!1 40-45:2/0!0");
-    }
-
-    private static void neighboursOfTheFirstAndLastThing() {
+    private static void noSuchUse() {
+        CHECK.sentence("14: NoSuchElementException: there is none");
         Told told = new Told();
-        told.term("key", 0, GOOD, 0);
-        told.term("key", 39, GOOD, 0);
-        told.neighbour("door", 0);
-        told.neighbour("piano", 39);
-        told.text(0, "door key. door door key; piano key? piano piano key! key");
-        CHECK.due("sentence by sentence", told.uses(0),
-                "5-8:0/-1!0 20-23:0/-1!0 31-34:1/-1!0 48-51:1/-1!0 53-56:-1/-1!1");
-    }
-
-    private static void neighboursOutside() {
-        Told told = new Told();
-        told.term("river bank", 1, GOOD, 0);
-        told.term("river bank", 2, GOOD, 0);
-        told.neighbour("river", 1);
-        told.neighbour("bank", 1);
-        told.neighbour("sea", 2);
-        told.text(0, "river bank");
-        CHECK.due("its own words don't count", told.uses(0), "0-10:-1/-1!1");
-        told.text(0, "river bank sea");
-        CHECK.due("one outside", told.uses(0), "0-10:1/-1!0");
-        told.text(0, "river bank river bank sea");
-        CHECK.due("those of another use do", told.uses(0), "0-10:0/-1!0 11-21:0/-1!0");
-    }
-
-    private static void doubtful() {
-        Told told = new Told();
-        told.ending("s");
-        told.term("jam", 4, BANNED, 1);
-        told.term("jam", 6, GOOD, 1);
-        told.term("jam", 5, GOOD, 1);
-        told.neighbour("road", 4);
-        told.neighbour("road", 5);
-        told.neighbour("bread", 6);
-        told.text(0, "jams");
-        CHECK.due("no neighbours", told.uses(0), "0-4:-1/-1!1");
-        told.text(0, "road jam");
-        CHECK.due("two share the most", told.uses(0), "5-8:-1/-1!1");
-        told.text(0, "road jam bread bread");
-        CHECK.due("a third has more", told.uses(0), "5-8:1/-1!0");
-        told.term("tea", 9, GOOD, 0);
-        told.keeper.define(9, 1L << 6);
-        told.text(0, "jam tea");
-        CHECK.due("a doubtful use is of no thing", told.uses(0), "0-3:-1/-1!1 4-7:3/-1!4");
-    }
-
-    private static void findingsInOrder() {
-        Told told = new Told();
-        told.term("puss", 0, BANNED, 0);
-        told.term("moggy", 0, LOOSE, 0);
-        told.term("ct", 0, SHORT, 0);
-        told.term("cat", 0, GOOD, 0);
-        told.keeper.define(0, 1L << 7);
-        told.text(0, "puss moggy ct cat ct");
-        CHECK.due("the first that is so", told.uses(0), "0-4:0/-1!2 5-10:1/-1!4 11-13:2/-1!3 14-17:3/-1!4 18-20:2/-1!4");
-        told.keeper.define(0, 0);
-        CHECK.due("without definitions", told.uses(0), "0-4:0/-1!2 5-10:1/-1!0 11-13:2/-1!3 14-17:3/-1!0 18-20:2/-1!0");
-        told.keeper.kind(3, LOOSE);
-        CHECK.due("no more a good one ahead", told.uses(0), "0-4:0/-1!2 5-10:1/-1!0 11-13:2/-1!3 14-17:3/-1!0 18-20:2/-1!3");
-    }
-
-    private static void shortsSpelledOut() {
-        Told told = new Told();
-        told.term("db", 1, SHORT, 0);
-        told.term("data base", 1, GOOD, 0);
-        told.term("set", 2, GOOD, 0);
-        told.text(0, "db set db data base db");
-        CHECK.due("a good one of its own thing", told.uses(0), "0-2:0/-1!3 3-6:2/-1!0 7-9:0/-1!3 10-19:1/-1!0 20-22:0/-1!0");
-        told.text(1, "db");
-        CHECK.due("of its own text", told.uses(1), "0-2:0/-1!3");
-    }
-
-    private static void defined() {
-        Told told = new Told();
-        told.term("cat", 0, GOOD, 0);
-        told.term("animal", 1, BANNED, 0);
-        told.term("fur", 39, GOOD, 0);
-        told.keeper.define(0, 1L << 1 | 1L << 39);
-        told.text(0, "cat animal cat fur cat");
-        CHECK.due("all ahead", told.uses(0), "0-3:0/-1!4 4-10:1/-1!2 11-14:0/-1!4 15-18:2/-1!0 19-22:0/-1!0");
-        told.keeper.know(39, true);
-        CHECK.due("one known", told.uses(0), "0-3:0/-1!4 4-10:1/-1!2 11-14:0/-1!0 15-18:2/-1!0 19-22:0/-1!0");
-        told.keeper.know(39, false);
-        CHECK.due("and no more", told.keeper.use(0, 2, 4), 4);
-        told.keeper.define(0, 1);
-        told.text(0, "cat cat");
-        CHECK.due("by itself", told.uses(0), "0-3:0/-1!4 4-7:0/-1!0");
-        told.keeper.know(0, true);
-        CHECK.due("itself known", told.uses(0), "0-3:0/-1!0 4-7:0/-1!0");
-    }
-
-    private static void missing() {
-        Told told = new Told();
+        CHECK.refused("without terms", MISSING, () -> told.use(0, 0, 0));
         told.term("cat", 0, GOOD, 0);
         told.text(0, "cat cat");
-        int[][] wrong = {{-1, 0}, {2, 0}, {0, -1}, {0, 5}, {Integer.MAX_VALUE, 0}, {Integer.MIN_VALUE, 0}, {0, Integer.MAX_VALUE}};
-        for (int[] numbers : wrong) {
-            CHECK.refused("use " + numbers[0] + " " + numbers[1], MISSING, () -> told.keeper.use(0, numbers[0], numbers[1]));
+        told.text(1, "cat cat cat");
+        CHECK.due("the first", told.use(0, 0, 0), 0);
+        CHECK.due("the last", told.use(0, 1, 0), 4);
+        for (int i : new int[] {-1, 2, 3, MIN, MAX}) {
+            CHECK.refused("use " + i, MISSING, () -> told.use(0, i, 0));
         }
-        CHECK.refused("of an empty text", MISSING, () -> told.keeper.use(1, 0, 0));
-        CHECK.refused("no text and no use", IllegalArgumentException.class, () -> told.keeper.use(8, 9, 9));
+        CHECK.due("that of a longer text", told.use(1, 2, 0), 8);
+        CHECK.refused("not of the shorter one", MISSING, () -> told.use(0, 2, 0));
+        CHECK.refused("of an empty one", MISSING, () -> told.use(2, 0, 0));
     }
 
-    private static void counted() {
-        Told told = bank();
-        told.text(0, "money bank. river bank. bank other");
-        told.text(7, "banks of the river; other");
-        int[] due = {2, 1, 2, 0};
-        for (int term = 0; term < 4; term++) {
-            CHECK.due("uses of term " + term, told.keeper.count(term), due[term]);
-        }
-        CHECK.refused("term below", MISSING, () -> told.keeper.count(-1));
-        CHECK.refused("term above", MISSING, () -> told.keeper.count(4));
-    }
-
-    private static void crossings() {
+    private static void anotherWhat() {
+        CHECK.sentence("14: NoSuchElementException: another what");
         Told told = new Told();
         told.term("cat", 0, GOOD, 0);
-        told.term("puss", 0, BANNED, 0);
-        told.term("dog", 39, GOOD, 0);
-        told.term("hound", 39, LOOSE, 0);
-        told.term("cow", 5, GOOD, 0);
-        told.text(0, "cat dog hound cow");
-        told.text(1, "puss hound");
-        CHECK.due("cats cross, dogs share a term", told.keeper.crossing(0, 1), 1);
-        CHECK.due("the other way round", told.keeper.crossing(1, 0), 1);
-        CHECK.due("with itself", told.keeper.crossing(0, 0), 0);
-        CHECK.due("with an empty one", told.keeper.crossing(0, 2), 0);
-        told.text(2, "dog puss");
-        CHECK.due("terms shared", told.keeper.crossing(1, 2), 1L << 39);
-        told.term("cat", 6, GOOD, 0);
-        CHECK.due("a doubtful use is of no thing", told.keeper.crossing(0, 1), 0);
-    }
-
-    private static void fullText() {
-        Told told = new Told();
-        told.term("a", 0, GOOD, 0);
-        told.text(0, "a ".repeat(300));
-        CHECK.due("three hundred uses", told.keeper.uses(0), 300);
-        CHECK.due("the last one's begin", told.keeper.use(0, 299, 0), 598);
-        told.text(0, "a".repeat(600));
-        CHECK.due("one long word", told.keeper.uses(0), 0);
-        told.text(0, " ".repeat(599) + "A");
-        CHECK.due("the last byte", told.uses(0), "599-600:0/-1!0");
+        told.text(0, "cat");
+        for (int what : new int[] {-1, 5, MIN, MAX}) {
+            CHECK.refused("what " + what, MISSING, () -> told.use(0, 0, what));
+            CHECK.refused("of no use", MISSING, () -> told.use(0, 1, what));
+        }
+        CHECK.due("the first what", told.use(0, 0, 0), 0);
+        CHECK.due("the last what", told.use(0, 0, 4), 0);
     }
 }
