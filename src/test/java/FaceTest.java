@@ -15,12 +15,29 @@ import java.util.regex.Pattern;
 /** The public face as the document writes it, and the rules of LANGUAGE.md that a look at the source can tell. */
 public final class FaceTest {
     private static final Check CHECK = new Check("FaceTest");
+    private static final String WRONG = "IllegalArgumentException";
+    private static final String MISSING = "NoSuchElementException";
     private static final String[] FACE = {
-        "boolean know(int, boolean)", "boolean mend(int, int)", "int about(int, int)", "int byteAt(int, int)",
-        "int count(int)", "int cut(int, int)", "int ending()", "int kind(int, int)", "int letter(int)",
-        "int mendAll(int)", "int neighbour(int)", "int ring(int)", "int term(int, int, int)", "int total(int)",
-        "int use(int, int, int)", "int uses(int)", "int write(int, int, int, int, int, int)",
-        "long crossing(int, int)", "long define(int, long)", "long fewest()"};
+        "boolean know(int, boolean) throws [" + WRONG + "]",
+        "boolean mend(int, int) throws [" + WRONG + "]",
+        "int about(int, int) throws [" + MISSING + "]",
+        "int byteAt(int, int) throws [" + WRONG + ", " + MISSING + "]",
+        "int count(int) throws [" + MISSING + "]",
+        "int cut(int, int) throws [" + WRONG + "]",
+        "int ending() throws []",
+        "int kind(int, int) throws [" + MISSING + ", " + WRONG + "]",
+        "int letter(int) throws []",
+        "int mendAll(int) throws [" + WRONG + "]",
+        "int neighbour(int) throws [" + WRONG + "]",
+        "int ring(int) throws [" + MISSING + "]",
+        "int term(int, int, int) throws [" + WRONG + "]",
+        "int total(int) throws [" + MISSING + "]",
+        "int use(int, int, int) throws [" + WRONG + ", " + MISSING + "]",
+        "int uses(int) throws [" + WRONG + "]",
+        "int write(int, int, int, int, int, int) throws [" + WRONG + "]",
+        "long crossing(int, int) throws [" + WRONG + "]",
+        "long define(int, long) throws [" + WRONG + "]",
+        "long fewest() throws []"};
     private static final String[] NEVER = {
         "\\btry\\b", "\\bcatch\\b", "\\bfinally\\b", "->", "::", "\\bassert\\b", "\\bsynchronized\\b", "\\bnull\\b",
         "\\bMath\\.random\\b", "\\bSystem\\.(?!arraycopy)", "Exact\\b", "\\bThread\\b", "\\bhashCode\\b", "\\btoString\\b",
@@ -39,8 +56,8 @@ public final class FaceTest {
         Set<String> face = new TreeSet<>();
         for (Method method : TermKeeper.class.getDeclaredMethods()) {
             if (!Modifier.isPrivate(method.getModifiers())) {
-                String types = Arrays.toString(Arrays.stream(method.getParameterTypes()).map(Class::getSimpleName).toArray());
-                face.add(method.getReturnType().getSimpleName() + " " + method.getName() + "(" + types.substring(1, types.length() - 1) + ")");
+                face.add(method.getReturnType().getSimpleName() + " " + method.getName() + "(" + names(method.getParameterTypes())
+                        + ") throws [" + names(method.getExceptionTypes()) + "]");
                 CHECK.due(method.getName(), Modifier.toString(method.getModifiers()), "public");
             }
         }
@@ -54,6 +71,11 @@ public final class FaceTest {
         }
         Constructor<?>[] made = TermKeeper.class.getDeclaredConstructors();
         CHECK.due("one constructor", made.length + Modifier.toString(made[0].getModifiers()), "1public");
+    }
+
+    private static String names(Class<?>[] types) {
+        String all = Arrays.toString(Arrays.stream(types).map(Class::getSimpleName).toArray());
+        return all.substring(1, all.length() - 1);
     }
 
     private static void nested() {

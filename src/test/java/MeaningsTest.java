@@ -194,14 +194,17 @@ public final class MeaningsTest {
 
     private static void shortIsThird() {
         CHECK.sentence("==== 2: 3 its TERM is SHORT, and no USE ahead of it in the TEXT is of a GOOD TERM of its THING");
-        Told told = new Told();
-        told.term("db", 1, SHORT, 0);
-        told.define(1, 1L << 2);
-        CHECK.due("ahead of undefined", told.uses(0, "db"), "0-2:0/-1!3");
-        told.term("data base", 1, GOOD, 0);
-        CHECK.due("then undefined", told.uses(0, "data base db"), "0-9:1/-1!4 10-12:0/-1!4");
-        told.define(1, 0);
-        CHECK.due("then none", told.allUses(0), "0-9:1/-1!0 10-12:0/-1!0");
+        for (int thing : new int[] {0, 1, 39}) {
+            Told told = new Told();
+            told.term("db", thing, SHORT, 0);
+            told.define(thing, 1L << 2);
+            CHECK.due("ahead of undefined", told.uses(0, "db"), "0-2:0/-1!3");
+            told.term("data base", thing, GOOD, 0);
+            CHECK.due("then undefined", told.uses(0, "data base db"), "0-9:1/-1!4 10-12:0/-1!4");
+            told.define(thing, 0);
+            CHECK.due("then none", told.allUses(0), "0-9:1/-1!0 10-12:0/-1!0");
+            CHECK.due("none ahead", told.uses(0, "db"), "0-2:0/-1!3");
+        }
     }
 
     private static void goodAheadOfAShort() {

@@ -24,6 +24,7 @@ public final class MendsTest {
         lineEndInTheUse();
         otherTextsStay();
         noneSuch();
+        longestGoodTerm();
         sixHundredBytes();
         fullText();
         mendAllOfAText();
@@ -265,6 +266,21 @@ public final class MendsTest {
         CHECK.due("two in this", told.mend(0, 2), false);
         CHECK.due("no mends ever", told.total(4), 0);
         CHECK.due("the last one", mended(told, "puss puss", 1), "true puss house cat");
+    }
+
+    private static void longestGoodTerm() {
+        CHECK.sentence("==== 3: its place takes the GOOD TERM (three WORDS of 12 LETTERS, an ENDING of 4)");
+        Told told = new Told();
+        String row = "abcdefghijkl mnopqrstuvwx yzabcdefghij";
+        told.ending("ness");
+        told.term(row, 0, GOOD, 1);
+        told.term("x", 0, BANNED, 1);
+        CHECK.due("with its ending", mended(told, "(xness)", 0), "true (" + row + "ness)");
+        CHECK.due("and back to its row", mended(told, "X x", 1), "true X " + row);
+        CHECK.due("all great", mended(told, "XNESS", 0), "true " + row.toUpperCase() + "NESS");
+        told.kind(0, BANNED);
+        told.kind(1, GOOD);
+        CHECK.due("the other way round", mended(told, row + "ness.", 0), "true xness.");
     }
 
     private static void sixHundredBytes() {
